@@ -28,7 +28,9 @@ public final class WaferYard {
     private static final int MAX_PASS = 50;
     private static final int LAST_TICK = 5000;
 
-    private static final int ALL_STEPS = MAX_ROUTES * MAX_STEPS;
+    /** A route has a place for each step and one for its end. */
+    private static final int ROUTE_PLACES = MAX_STEPS + 1;
+    private static final int ALL_PLACES = MAX_ROUTES * ROUTE_PLACES;
     /** A lot goes through its route once and is reworked once at most. */
     private static final int MAX_RECORDS = MAX_STEPS + MAX_BACK;
     /** Each batch that ends is in the record of one lot at least. */
@@ -89,13 +91,13 @@ public final class WaferYard {
 
     public WaferYard() {
         for (int i = 0; i < routes.length; i++) {
-            routes[i] = new Route(i * MAX_STEPS);
+            routes[i] = new Route(i * ROUTE_PLACES);
         }
         for (int i = 0; i < tools.length; i++) {
             tools[i] = new Tool(i);
         }
         for (int i = 0; i < lots.length; i++) {
-            lots[i] = new Lot(i);
+            lots[i] = new Lot(i, routes[0]);
         }
     }
 
@@ -168,8 +170,8 @@ public final class WaferYard {
         if (of.kind != told.kind) {
             throw new UnsupportedOperationException();
         }
-        boolean wasQualified = told.isQualifiedFor(of.index);
-        told.isBarred[of.index] = !isQualified;
+        boolean wasQualified = !told.isBarred[of.place];
+        told.isBarred[of.place] = !isQualified;
         return wasQualified;
     }
 
@@ -206,7 +208,7 @@ public final class WaferYard {
         }
         started.isStarted = true;
         Lot lot = lots[lotCount];
-        lot.route = route;
+        lot.route = started;
         lot.wafers = wafers;
         lot.priority = priority;
         lot.startTick = now;
@@ -381,7 +383,7 @@ public final class WaferYard {
         if (asked.setup == NONE) {
             throw new NoSuchElementException();
         }
-        return asked.setup / MAX_STEPS * SETUP_ROUTE_FACTOR + asked.setup % MAX_STEPS;
+        return asked.setup / ROUTE_PLACES * SETUP_ROUTE_FACTOR + asked.setup % ROUTE_PLACES;
     }
 
     public int driftOf(int tool) throws IndexOutOfBoundsException {
@@ -394,7 +396,7 @@ public final class WaferYard {
 
     public int correction(int tool, int route, int step) throws IndexOutOfBoundsException {
         Tool asked = findTool(tool);
-        return asked.corrections[findStep(route, step).index];
+        return asked.corrections[findStep(route, step).place];
     }
 
     public int measures(int tool) throws IndexOutOfBoundsException {
@@ -410,7 +412,7 @@ public final class WaferYard {
         if (asked.state != WAITS && asked.state != IN_TOOL) {
             throw new UnsupportedOperationException();
         }
-        return now + 2 * ticksLeft(asked);
+        return now + 2 * asked.ticksLeft();
     }
 
     public int yieldOf(int lot) throws IndexOutOfBoundsException, NoSuchElementException {
@@ -573,19 +575,18 @@ public final class WaferYard {
     }
 
     private void logMeasure(Lot lot, Tool tool) {
-        Step step = presentStep(lot);
-        if (step.isMeasured) {
-            log.add(lot, tool.number, now, tool.deviationAt(step));
+        if (lot.at.isMeasured) {
+            log.add(lot, tool.number, now, tool.deviationAt(lot.at));
         }
     }
 
     private void endStep(Lot lot, Tool tool) {
-        Step step = presentStep(lot);
+        Step step = lot.at;
         lot.history.add(lot, tool, tool.deviationAt(step));
         movedWafers += lot.wafers;
         lot.between = BETWEEN_NOTHING;
         lot.waitFor(lot.step + 1, now);
-        if (lot.step >= routes[lot.route].length) {
+        if (lot.step >= lot.route.length) {
             lot.state = DONE;
         } else if (step.limit > 0) {
             lot.limit = now + step.limit;
@@ -611,17 +612,17 @@ public final class WaferYard {
     private void takeMeasure(int measure) {
         Tool tool = tools[log.tools[measure]];
         Lot lot = lots[log.lots[measure]];
-        Step step = routes[lot.route].steps[log.steps[measure]];
+        Step step = lot.route.stepAt(log.steps[measure]);
         int deviation = log.deviations[measure];
-        tool.corrections[step.index] -= halfOf(deviation);
+        tool.corrections[step.place] -= halfOf(deviation);
         tool.measureCount++;
         tool.follow(deviation);
         if (Math.abs(deviation) > EXCURSION_ABOVE) {
             excursionCount++;
             tool.needsRest = true;
-            holdSinceGoodMeasure(tool, lot.route, log.steps[measure], tool.goodEnds[step.index]);
+            holdSinceGoodMeasure(tool, lot.route, log.steps[measure], tool.goodEnds[step.place]);
         } else {
-            tool.goodEnds[step.index] = log.ends[measure];
+            tool.goodEnds[step.place] = log.ends[measure];
             if (Math.abs(deviation) > REWORK_ABOVE) {
                 rework(lot, log.steps[measure], step.back);
             }
@@ -639,7 +640,7 @@ public final class WaferYard {
         return isHalfOver && isOdd ? below + 1 : below;
     }
 
-    private void holdSinceGoodMeasure(Tool tool, int route, int step, int goodEnd) {
+    private void holdSinceGoodMeasure(Tool tool, Route route, int step, int goodEnd) {
         for (int i = 0; i < lotCount; i++) {
             Lot lot = lots[i];
             if (lot.state == WAITS && lot.route == route
@@ -687,17 +688,13 @@ public final class WaferYard {
         queue.size = 0;
         for (int i = 0; i < lotCount; i++) {
             if (misfit(tool, lots[i]) == FITS) {
-                queue.insert(placeInQueue(tool, lots[i]), i);
+                int place = queue.size;
+                while (place > 0 && isAhead(lots[i], lots[queue.numbers[place - 1]], tool)) {
+                    place--;
+                }
+                queue.insert(place, i);
             }
         }
-    }
-
-    private int placeInQueue(Tool tool, Lot lot) {
-        int place = queue.size;
-        while (place > 0 && isAhead(lot, lots[queue.numbers[place - 1]], tool)) {
-            place--;
-        }
-        return place;
     }
 
     private void takeBatch(Tool tool) {
@@ -721,12 +718,12 @@ public final class WaferYard {
     }
 
     private void beginWork(Tool tool) {
-        Step step = presentStep(lots[batch.numbers[0]]);
-        int setupTicks = tool.setup == step.index ? 0 : SETUP_TICKS;
+        Step step = lots[batch.numbers[0]].at;
+        int setupTicks = tool.setup == step.place ? 0 : SETUP_TICKS;
         tool.state = WORKS;
         tool.begin = now;
         tool.until = now + step.ticks + setupTicks;
-        tool.setup = step.index;
+        tool.setup = step.place;
         for (int i = 0; i < batch.size; i++) {
             Lot lot = lots[batch.numbers[i]];
             lot.state = IN_TOOL;
@@ -745,24 +742,28 @@ public final class WaferYard {
         if (lot.state != WAITS) {
             return 'w';
         }
-        Step step = presentStep(lot);
+        Step step = lot.at;
         if (step.kind != tool.kind) {
             return 'k';
         }
-        if (!tool.isQualifiedFor(step.index)) {
+        if (tool.isBarred[step.place]) {
             return 'q';
         }
         int bound = step.layer == NONE ? NONE : boundTool(lot, step);
         if (bound != NONE && bound != tool.number) {
             return 'd';
         }
-        return hasRoomBehind(lot) ? FITS : 'g';
+        if (step.gapKind != NONE
+                && lotsInGapWith(lot, step.gapKind) > roomFor(lot.route.stepAt(lot.step + 1))) {
+            return 'g';
+        }
+        return FITS;
     }
 
     /** The tool to which the layer of the step binds the lot. */
     private int boundTool(Lot lot, Step step) {
         for (int i = lot.history.length - 1; i >= 0; i--) {
-            Step had = routes[lot.route].steps[lot.history.steps[i]];
+            Step had = lot.route.stepAt(lot.history.steps[i]);
             if (had.layer == step.layer && had.kind == step.kind) {
                 return lot.history.tools[i];
             }
@@ -770,42 +771,30 @@ public final class WaferYard {
         return NONE;
     }
 
-    private boolean hasRoomBehind(Lot lot) {
-        Step step = presentStep(lot);
-        if (step.gapKind == NONE) {
-            return true;
-        }
-        int lotsInGap = 0;
+    /** The lots in the gap, this one and the batch that is taken included. */
+    private int lotsInGapWith(Lot lot, int kind) {
+        int count = 0;
         for (int i = 0; i < lotCount; i++) {
-            if (i == lot.number || batch.has(i) || isInGap(lots[i], step.gapKind)) {
-                lotsInGap++;
+            Lot other = lots[i];
+            boolean comes = other.state == IN_TOOL && other.at.gapKind == kind;
+            boolean isThere = other.state == WAITS && other.limit != NONE && other.at.kind == kind;
+            if (i == lot.number || batch.has(i) || comes || isThere) {
+                count++;
             }
         }
-        return lotsInGap <= roomFor(step.gapKind, step.index + 1);
+        return count;
     }
 
-    private boolean isInGap(Lot lot, int kind) {
-        if (lot.state == WAITS) {
-            return lot.limit != NONE && presentStep(lot).kind == kind;
-        }
-        return lot.state == IN_TOOL && presentStep(lot).gapKind == kind;
-    }
-
-    private int roomFor(int kind, int stepIndex) {
+    private int roomFor(Step next) {
         int room = 0;
         for (int i = 0; i < toolCount; i++) {
             Tool tool = tools[i];
-            if (tool.kind == kind && tool.state != RESTS && !tool.needsRest
-                    && tool.isQualifiedFor(stepIndex)) {
+            if (tool.kind == next.kind && tool.state != RESTS && !tool.needsRest
+                    && !tool.isBarred[next.place]) {
                 room += tool.capacity;
             }
         }
         return room;
-    }
-
-    /** The step of a lot that waits, is in a tool or is held; one that is done has none. */
-    private Step presentStep(Lot lot) {
-        return routes[lot.route].steps[lot.step];
     }
 
     private static boolean waitAlike(Lot one, Lot other) {
@@ -829,8 +818,8 @@ public final class WaferYard {
             return Integer.compare(one.limitOrLast(), other.limitOrLast());
         }
         if (letter == 's') {
-            int oneRank = presentStep(one).index == tool.setup ? 0 : 1;
-            int otherRank = presentStep(other).index == tool.setup ? 0 : 1;
+            int oneRank = one.at.place == tool.setup ? 0 : 1;
+            int otherRank = other.at.place == tool.setup ? 0 : 1;
             return Integer.compare(oneRank, otherRank);
         }
         if (letter == 'p') {
@@ -839,16 +828,7 @@ public final class WaferYard {
         if (letter == 'w') {
             return Integer.compare(one.since, other.since);
         }
-        return Integer.compare(ticksLeft(one), ticksLeft(other));
-    }
-
-    private int ticksLeft(Lot lot) {
-        Route route = routes[lot.route];
-        int sum = 0;
-        for (int i = lot.step; i < route.length; i++) {
-            sum += route.steps[i].ticks;
-        }
-        return sum;
+        return Integer.compare(one.ticksLeft(), other.ticksLeft());
     }
 
     // ---- soundness
@@ -867,10 +847,10 @@ public final class WaferYard {
         History history = lot.history;
         int step = history.steps[entry];
         int tool = history.tools[entry];
-        if (step < 0 || step >= routes[lot.route].length || tool < 0 || tool >= toolCount) {
+        if (step < 0 || step >= lot.route.length || tool < 0 || tool >= toolCount) {
             return false;
         }
-        return tools[tool].kind == routes[lot.route].steps[step].kind
+        return tools[tool].kind == lot.route.stepAt(step).kind
                 && history.begins[entry] <= history.ends[entry];
     }
 
@@ -888,7 +868,7 @@ public final class WaferYard {
         if (begin < endAhead || (isReworked ? step > ahead : step != ahead + 1)) {
             return false;
         }
-        int limit = routes[lot.route].steps[ahead].limit;
+        int limit = lot.route.stepAt(ahead).limit;
         return limit == 0 || between != BETWEEN_NOTHING || begin <= endAhead + limit;
     }
 
@@ -927,7 +907,7 @@ public final class WaferYard {
 
     private static final class Step {
         /** Its place among the steps of all routes, for the rows of the tools. */
-        final int index;
+        final int place;
         int kind;
         int ticks;
         int limit;
@@ -937,20 +917,28 @@ public final class WaferYard {
         /** The kind of the next step if there is one and this one has a limit. */
         int gapKind = NONE;
 
-        Step(int index) {
-            this.index = index;
+        Step(int place) {
+            this.place = place;
         }
     }
 
     private static final class Route {
         final Step[] steps = new Step[MAX_STEPS];
+        /** Stands behind the last step: no tool is of its kind, and it takes no ticks. */
+        final Step end;
         int length;
         boolean isStarted;
 
-        Route(int firstIndex) {
+        Route(int firstPlace) {
             for (int i = 0; i < steps.length; i++) {
-                steps[i] = new Step(firstIndex + i);
+                steps[i] = new Step(firstPlace + i);
             }
+            end = new Step(firstPlace + steps.length);
+            end.kind = NONE;
+        }
+
+        Step stepAt(int step) {
+            return step >= 0 && step < length ? steps[step] : end;
         }
 
         void openGapTo(Step next) {
@@ -972,29 +960,25 @@ public final class WaferYard {
         boolean needsRest;
         int begin;
         int until;
-        /** The index of a step, or NONE. */
+        /** The place of a step, or NONE. */
         int setup = NONE;
         int drift;
         int use;
         int measureCount;
         /** How many measures since the last rest, up to the latest, are above 0, or below as a negative. */
         int trend;
-        final int[] corrections = new int[ALL_STEPS];
+        final int[] corrections = new int[ALL_PLACES];
         /** The end of the batch of the latest good measure; no batch ends in tick 0. */
-        final int[] goodEnds = new int[ALL_STEPS];
+        final int[] goodEnds = new int[ALL_PLACES];
         /** Barred and not qualified, so that steps that come later are qualified at first. */
-        final boolean[] isBarred = new boolean[ALL_STEPS];
+        final boolean[] isBarred = new boolean[ALL_PLACES];
 
         Tool(int number) {
             this.number = number;
         }
 
-        boolean isQualifiedFor(int stepIndex) {
-            return stepIndex >= 0 && stepIndex < isBarred.length && !isBarred[stepIndex];
-        }
-
         int deviationAt(Step step) {
-            return drift + corrections[step.index];
+            return drift + corrections[step.place];
         }
 
         void follow(int deviation) {
@@ -1022,11 +1006,13 @@ public final class WaferYard {
 
     private static final class Lot {
         final int number;
-        int route;
+        Route route;
         int wafers;
         int priority;
         int startTick;
         int step;
+        /** The step of this number; one that is done is at the end of its route. */
+        Step at;
         int since;
         int limit = NONE;
         char state = WAITS;
@@ -1037,8 +1023,10 @@ public final class WaferYard {
         int between;
         final History history = new History();
 
-        Lot(int number) {
+        Lot(int number, Route route) {
             this.number = number;
+            this.route = route;
+            at = route.end;
         }
 
         /** Whether calls may take wafers from it. */
@@ -1049,6 +1037,7 @@ public final class WaferYard {
         void waitFor(int nextStep, int tick) {
             state = WAITS;
             step = nextStep;
+            at = route.stepAt(nextStep);
             since = tick;
         }
 
@@ -1062,6 +1051,14 @@ public final class WaferYard {
             state = how;
             wafers = 0;
             limit = NONE;
+        }
+
+        int ticksLeft() {
+            int sum = 0;
+            for (int i = route.length - 1; i >= step && i >= 0; i--) {
+                sum += route.steps[i].ticks;
+            }
+            return sum;
         }
 
         int limitOrLast() {
@@ -1082,6 +1079,7 @@ public final class WaferYard {
             priority = other.priority;
             startTick = other.startTick;
             step = other.step;
+            at = other.at;
             since = other.since;
             limit = other.limit;
             state = other.state;

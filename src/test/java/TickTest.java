@@ -1,6 +1,6 @@
 import java.util.NoSuchElementException;
 
-/** The part "Terms": how a tick goes, what fits a tool, and the rule (promises 15, 7, 8 and 32). */
+/** The part "Terms": how a tick goes, in its five parts (promises 8 and 15). */
 public final class TickTest {
     private static final Class<NoSuchElementException> NONE = NoSuchElementException.class;
     private static final Expect EXPECT = new Expect();
@@ -320,10 +320,6 @@ public final class TickTest {
         split.pass(1);
         EXPECT.same("the first lot is reworked", split.stepOf(7), 0);
         EXPECT.same("its part is not", split.stepOf(8), 1);
-        WaferYard ahead = Yards.aheadOfMeasure(7, 1, 1);
-        Yards.tool(ahead, 1);
-        ahead.setQualified(1, 1, 1, false);
-        ahead.setQualified(1, 1, 1, true);
         WaferYard late = new WaferYard();
         Yards.route(late, Yards.step(0, 1));
         Yards.route(late, Yards.measured(0, 1), Yards.step(1, 9));
