@@ -179,10 +179,28 @@ public final class FigureTest {
         Yards.passTo(x, 30);
         EXPECT.same("39 done", x.lotState(1), 'd');
         EXPECT.same("39 a part held between", x.isSound(), true);
+        heldBeforeItWasSplit();
         WaferYard y = Yards.aheadOfMeasure(7, 1, 1);
         Yards.passTo(y, 40);
         EXPECT.same("39 reworked", y.recordAt(7, 1, 's'), 0);
         EXPECT.same("39 steps follow but for rework", y.isSound(), true);
+    }
+
+    private static void heldBeforeItWasSplit() {
+        WaferYard x = new WaferYard();
+        Yards.route(x, Yards.limited(0, 1, 2), Yards.step(1, 1));
+        Yards.tool(x, 0);
+        Yards.tool(x, 1);
+        x.start(0, 2, 0);
+        x.pass(3);
+        x.setQualified(1, 0, 1, false);
+        Yards.passTo(x, 7);
+        EXPECT.same("39 held", x.release(0), true);
+        x.split(0, 1);
+        x.setQualified(1, 0, 1, true);
+        Yards.passTo(x, 20);
+        EXPECT.same("39 a part that was not held itself", x.recordAt(1, 1, 'b') > 5, true);
+        EXPECT.same("39 held ahead of the split", x.isSound(), true);
     }
 
     /** One lot behind all three steps of which the first has a limit, and one that is behind it. */

@@ -269,6 +269,15 @@ public final class FitTest {
         y.pass(1);
         EXPECT.same("for its patience", y.lotState(1), 't');
         EXPECT.same("still no third", y.lotState(2), 'w');
+        WaferYard z = new WaferYard();
+        Yards.route(z, Yards.limited(0, 1, 9), Yards.step(1, 2));
+        z.addTool(0, 2, 0, 50, 1, 0);
+        Yards.tool(z, 1);
+        z.start(0, 1, 0);
+        z.start(0, 1, 0);
+        z.pass(1);
+        EXPECT.same("room for one", z.lotState(0), 't');
+        EXPECT.same("and not for two", z.lotState(1), 'w');
     }
 
     private static void countsRoom() {

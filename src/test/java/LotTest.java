@@ -132,6 +132,7 @@ public final class LotTest {
         WaferYard x = new WaferYard();
         Yards.route(x, Yards.step(0, 1));
         x.addTool(0, 3, 4, 50, 1, 0);
+        x.pass(2);
         x.start(0, 8, 0);
         x.pass(3);
         x.split(0, 1);
@@ -140,9 +141,33 @@ public final class LotTest {
         EXPECT.same("10 not before its patience", x.lotState(1), 'w');
         x.pass(1);
         EXPECT.same("10 as long a wait", x.lotState(1), 't');
-        Yards.passTo(x, 8);
-        EXPECT.same("10 done at 7", x.lotState(1), 'd');
+        Yards.passTo(x, 10);
+        EXPECT.same("10 done at 9", x.lotState(1), 'd');
         EXPECT.sameReal("10 the start of the whole", x.meanTime(), 7.0);
+        hasItsPriority();
+        hasItsDeviations();
+    }
+
+    private static void hasItsPriority() {
+        WaferYard x = Yards.small();
+        x.setRule('p', '-', '-', '-');
+        x.start(0, 1, 5);
+        x.start(0, 2, 6);
+        x.split(1, 1);
+        x.hold(1);
+        x.pass(1);
+        EXPECT.same("10 its priority", x.lotState(2), 't');
+    }
+
+    private static void hasItsDeviations() {
+        WaferYard x = Yards.aheadOfMeasure(3, 2, 0);
+        x.split(3, 1);
+        EXPECT.same("10 its deviations", x.recordAt(4, 0, 'd'), 6);
+        EXPECT.same("10 its steps", x.recordAt(4, 0, 's'), 0);
+        EXPECT.same("10 its tools", x.recordAt(4, 0, 't'), 0);
+        Yards.tool(x, 1);
+        x.pass(30);
+        EXPECT.same("10 its yield", x.yieldOf(4), 94);
     }
 
     /** A part of a lot that was reworked is not reworked again, though it is far off. */

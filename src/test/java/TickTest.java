@@ -429,6 +429,28 @@ public final class TickTest {
             EXPECT.same("rests but for shift 0: " + shift, x.toolState(0), shift == 0 ? 'p' : 'r');
         }
         ofWhateverSteps();
+        zeroIsNeither();
+    }
+
+    /** Measures 4, 5 and 6 at 12 to 14 correct by 7, so that 0 and 1 follow at 19 and 20. */
+    private static void zeroIsNeither() {
+        WaferYard x = new WaferYard();
+        Yards.route(x, Yards.step(0, 1));
+        Yards.route(x, Yards.measured(0, 1));
+        Yards.drifting(x, 0, 1);
+        for (int i = 0; i < 7; i++) {
+            x.start(i < 4 ? 0 : 1, 1, 0);
+        }
+        Yards.passTo(x, 15);
+        EXPECT.same("three measures", x.measures(0), 3);
+        EXPECT.same("corrected by seven", x.correction(0, 1, 0), -7);
+        x.start(1, 1, 0);
+        x.start(1, 1, 0);
+        Yards.passTo(x, 21);
+        EXPECT.same("two more", x.measures(0), 5);
+        EXPECT.same("of 0", x.recordAt(7, 0, 'd'), 0);
+        EXPECT.same("and of 1", x.recordAt(8, 0, 'd'), 1);
+        EXPECT.same("four above 0, but not the last four", x.toolState(0), 'i');
     }
 
     /** Two measured steps in turn: 1, 2, 3, 4 behind a 0. */
