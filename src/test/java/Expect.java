@@ -35,6 +35,21 @@ final class Expect {
         }
     }
 
+    /** Tells the first line that is not as due. */
+    void sameText(String what, String got, String due) {
+        calls++;
+        if (got.equals(due)) {
+            return;
+        }
+        String[] gotLines = got.split("\n");
+        String[] dueLines = due.split("\n");
+        int line = 0;
+        while (line < gotLines.length - 1 && line < dueLines.length - 1 && gotLines[line].equals(dueLines[line])) {
+            line++;
+        }
+        tell(what, gotLines[line], dueLines[line]);
+    }
+
     /** The very class counts, not one below it. */
     void thrown(String what, Class<? extends RuntimeException> due, Call call) {
         calls++;

@@ -15,7 +15,9 @@ public final class FigureTest {
         promise39();
         promise39HeldAndReworked();
         promise39Broken();
+        promise39StepsOfOneKind();
         promise39Overlaps();
+        promise39OtherBatches();
         promise39Late();
         EXPECT.end();
     }
@@ -115,6 +117,18 @@ public final class FigureTest {
         Yards.passTo(x, 40);
         EXPECT.same("38 a part is done", x.lotState(2), 'd');
         EXPECT.sameReal("38 the start of the whole", x.meanTime(), (4.0 + 18.0) / 2.0);
+        WaferYard y = Yards.bare();
+        Yards.tool(y, 0);
+        y.pass(2);
+        y.start(0, 5, 0);
+        Yards.passTo(y, 10);
+        EXPECT.same("38 ended a step", y.recordAt(0, 0, 'e'), 6);
+        y.split(0, 2);
+        y.scrap(0, 3);
+        Yards.tool(y, 1);
+        y.pass(9);
+        EXPECT.same("38 the part alone is done", y.lotState(1), 'd');
+        EXPECT.sameReal("38 the whole's start, not its wait", y.meanTime(), 13.0);
     }
 
     private static void promise38AsDouble() {
@@ -180,6 +194,7 @@ public final class FigureTest {
         EXPECT.same("39 done", x.lotState(1), 'd');
         EXPECT.same("39 a part held between", x.isSound(), true);
         heldBeforeItWasSplit();
+        heldWhenReworked();
         WaferYard y = Yards.aheadOfMeasure(7, 1, 1);
         Yards.passTo(y, 40);
         EXPECT.same("39 reworked", y.recordAt(7, 1, 's'), 0);
@@ -201,6 +216,19 @@ public final class FigureTest {
         Yards.passTo(x, 20);
         EXPECT.same("39 a part that was not held itself", x.recordAt(1, 1, 'b') > 5, true);
         EXPECT.same("39 held ahead of the split", x.isSound(), true);
+    }
+
+    private static void heldWhenReworked() {
+        WaferYard x = Yards.aheadOfMeasure(7, 1, 1);
+        x.setQualified(0, 1, 0, false);
+        x.pass(1);
+        EXPECT.same("39 sent back", x.stepOf(7), 0);
+        x.hold(7);
+        x.release(7);
+        x.setQualified(0, 1, 0, true);
+        x.pass(9);
+        EXPECT.same("39 the step again", x.recordAt(7, 1, 's'), 0);
+        EXPECT.same("39 reworked and held between", x.isSound(), true);
     }
 
     /** One lot behind all three steps of which the first has a limit, and one that is behind it. */
@@ -249,10 +277,42 @@ public final class FigureTest {
         broken("no such step", "steps", 2, 3);
         broken("a negative step", "steps", 2, -1);
         broken("a tool of another kind", "tools", 1, 0);
+        broken("a tool of another kind at once", "tools", 0, 1);
         broken("no such tool", "tools", 1, 3);
         broken("a negative tool", "tools", 1, -1);
         broken("begins ahead of the end ahead", "begins", 1, 3);
         broken("ends ahead of its beginning", "ends", 2, 1);
+    }
+
+    /** A lot behind four of five steps, all of one kind, whose steps are written anew. */
+    private static WaferYard withSteps(int... steps) throws ReflectiveOperationException {
+        WaferYard x = new WaferYard();
+        Yards.route(x, Yards.step(0, 1), Yards.step(0, 1), Yards.step(0, 1), Yards.step(0, 1), Yards.step(0, 1));
+        Yards.tool(x, 0);
+        x.setQualified(0, 0, 4, false);
+        x.start(0, 1, 0);
+        Yards.passTo(x, 20);
+        EXPECT.same("39 four steps", x.records(0), 4);
+        for (int row = 0; row < steps.length; row++) {
+            write(x, 0, "steps", row, steps[row]);
+        }
+        return x;
+    }
+
+    /** "Steps follow each other but for rework." */
+    private static void promise39StepsOfOneKind() throws ReflectiveOperationException {
+        EXPECT.same("39 one by one", withSteps(0, 1, 2, 3).isSound(), true);
+        EXPECT.same("39 one is left out", withSteps(0, 2, 3, 4).isSound(), false);
+        EXPECT.same("39 the last but one is left out", withSteps(0, 1, 2, 4).isSound(), false);
+        EXPECT.same("39 one comes again", withSteps(0, 1, 1, 2).isSound(), false);
+        EXPECT.same("39 an earlier one comes again", withSteps(0, 1, 2, 1).isSound(), false);
+        WaferYard reworked = withSteps(0, 1, 2, 1);
+        write(reworked, 0, "betweens", 3, 2);
+        EXPECT.same("39 an earlier one comes again by rework", reworked.isSound(), true);
+        write(reworked, 0, "betweens", 3, 3);
+        EXPECT.same("39 by rework, and held, too", reworked.isSound(), true);
+        write(reworked, 0, "betweens", 3, 1);
+        EXPECT.same("39 held is not reworked", reworked.isSound(), false);
     }
 
     private static void promise39Overlaps() throws ReflectiveOperationException {
@@ -274,6 +334,41 @@ public final class FigureTest {
         EXPECT.same("39 another end is another work", y.isSound(), false);
     }
 
+    /** Works of one tool at one time are one batch if route, step, beginning and end are the same. */
+    private static void promise39OtherBatches() throws ReflectiveOperationException {
+        WaferYard x = new WaferYard();
+        Yards.route(x, Yards.step(0, 2), Yards.step(0, 2));
+        Yards.route(x, Yards.step(0, 2), Yards.step(0, 2));
+        Yards.tool(x, 0);
+        for (int lot = 0; lot < 3; lot++) {
+            x.start(lot / 2, 1, 0);
+        }
+        Yards.passTo(x, 40);
+        for (int lot = 0; lot < 3; lot++) {
+            EXPECT.same("39 two steps", x.records(lot), 2);
+            put(x, lot, 0, 100 * lot, 100 * lot + 4);
+            put(x, lot, 1, 100 * lot + 50, 100 * lot + 54);
+        }
+        EXPECT.same("39 far from each other", x.isSound(), true);
+        put(x, 1, 0, 0, 4);
+        EXPECT.same("39 one batch", x.isSound(), true);
+        put(x, 1, 0, 1, 4);
+        EXPECT.same("39 another beginning", x.isSound(), false);
+        put(x, 1, 0, 0, 5);
+        EXPECT.same("39 another end", x.isSound(), false);
+        put(x, 1, 0, 50, 54);
+        EXPECT.same("39 another step", x.isSound(), false);
+        put(x, 1, 0, 100, 104);
+        EXPECT.same("39 far again", x.isSound(), true);
+        put(x, 2, 0, 0, 4);
+        EXPECT.same("39 another route", x.isSound(), false);
+    }
+
+    private static void put(WaferYard x, int lot, int row, int begin, int end) throws ReflectiveOperationException {
+        write(x, lot, "begins", row, begin);
+        write(x, lot, "ends", row, end);
+    }
+
     private static void promise39Late() throws ReflectiveOperationException {
         WaferYard x = threeSteps();
         int end = x.recordAt(0, 0, 'e');
@@ -292,5 +387,21 @@ public final class FigureTest {
         }
         write(x, 0, "betweens", 1, 1);
         EXPECT.same("39 held between", x.isSound(), true);
+        promise39LateByRework();
+    }
+
+    /** The first step has a limit of 3, and comes again 16 ticks behind its end. */
+    private static void promise39LateByRework() throws ReflectiveOperationException {
+        WaferYard x = new WaferYard();
+        Yards.route(x, Yards.limited(0, 1, 3), Yards.step(0, 1));
+        Yards.tool(x, 0);
+        x.start(0, 1, 0);
+        Yards.passTo(x, 20);
+        EXPECT.same("39 two steps", x.records(0), 2);
+        write(x, 0, "steps", 1, 0);
+        put(x, 0, 1, 19, 22);
+        EXPECT.same("39 the step again, and late", x.isSound(), false);
+        write(x, 0, "betweens", 1, 2);
+        EXPECT.same("39 reworked between", x.isSound(), true);
     }
 }

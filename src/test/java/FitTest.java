@@ -1,4 +1,4 @@
-/** The part "Terms": what fits a tool, what it takes at once, and the rule (promises 7, 15 and 32). */
+/** The part "Terms": what fits a tool, and what it takes at once (promises 15 and 32). */
 public final class FitTest {
     private static final Expect EXPECT = new Expect();
 
@@ -10,20 +10,10 @@ public final class FitTest {
         bindsLayers();
         bindsByKindAndLayer();
         bindsLotsThatAreReworked();
-        keepsRoomInTheGap();
-        countsLotsThatWait();
-        takesNoMoreThanThereIsRoom();
-        countsRoom();
-        hasNoGap();
-        countsALotOnce();
-        countsLotsOfOtherRoutes();
-        ranksByNumber();
-        ranksByPriority();
-        ranksByWait();
-        ranksByTicksLeft();
-        ranksBySetup();
-        ranksByLimit();
-        ranksByTheNextLetter();
+        bindsEachLayerOfEachKind();
+        tellsTheFirstOfAllReasons();
+        tellsAnotherKindAheadOfTheGap();
+        takesUpToItsCapacity();
         EXPECT.end();
     }
 
@@ -190,301 +180,93 @@ public final class FitTest {
         EXPECT.same("bound to the tool that rests", x.why(1, 1), 'd');
     }
 
-    private static WaferYard gapYard(int capacity) {
-        WaferYard x = new WaferYard();
-        Yards.route(x, Yards.limited(0, 1, 9), Yards.step(1, 2));
-        Yards.tool(x, 0);
-        Yards.tool(x, 0);
-        x.addTool(1, capacity, 0, 50, 4, 0);
-        return x;
+    private static void bindsEachLayerOfEachKind() {
+        for (int kind = 0; kind <= 3; kind++) {
+            for (int layer = -1; layer <= 2; layer++) {
+                WaferYard x = new WaferYard();
+                Yards.route(x, Yards.layered(kind, 1, layer), Yards.layered(kind, 1, layer));
+                Yards.tool(x, kind);
+                Yards.tool(x, kind);
+                x.setQualified(0, 0, 0, false);
+                x.start(0, 1, 0);
+                x.pass(3);
+                x.setQualified(0, 0, 1, false);
+                x.setQualified(1, 0, 1, false);
+                x.pass(1);
+                x.setQualified(0, 0, 1, true);
+                x.setQualified(1, 0, 1, true);
+                String what = "kind " + kind + ", layer " + layer;
+                EXPECT.same(what + ": the first step's tool", x.recordAt(0, 0, 't'), 1);
+                EXPECT.same(what + ": another tool", x.why(0, 0), layer == -1 ? '-' : 'd');
+                EXPECT.same(what + ": its tool", x.why(1, 0), '-');
+            }
+        }
     }
 
-    private static void keepsRoomInTheGap() {
-        WaferYard x = gapYard(1);
-        x.start(0, 1, 0);
-        x.start(0, 1, 0);
-        EXPECT.same("there is room", x.why(1, 1), '-');
-        x.pass(1);
-        EXPECT.same("one began", x.toolOf(0), 0);
-        EXPECT.same("no room for the other", x.lotState(1), 'w');
-        EXPECT.same("by the gap", x.why(1, 1), 'g');
-        x.askRest(2);
-        Yards.passTo(x, 4);
-        EXPECT.same("waits with a limit", x.limitOf(0), 12);
-        EXPECT.same("in the gap", x.why(1, 1), 'g');
-        Yards.passTo(x, 6);
-        EXPECT.same("the next tool rested up to 5", x.toolOf(0), 2);
-        EXPECT.same("tools of lower numbers came ahead of it", x.lotState(1), 'w');
-        EXPECT.same("now it is out of the gap", x.why(1, 1), '-');
-        x.pass(1);
-        EXPECT.same("the other begins", x.toolOf(1), 0);
-    }
-
-    /** The tool behind the gap is patient, so that a lot stays in the gap though there is room. */
-    private static void countsLotsThatWait() {
+    /** All reasons but that of the kind apply to the first tool; they are taken away one by one. */
+    private static void tellsTheFirstOfAllReasons() {
         WaferYard x = new WaferYard();
-        Yards.route(x, Yards.limited(0, 1, 9), Yards.step(1, 2));
+        Yards.route(x, new int[] {0, 1, 9, 0, 0}, new int[] {0, 1, 9, 0, 0}, Yards.step(3, 1));
+        x.addTool(0, 1, 0, 50, 2, 0);
         Yards.tool(x, 0);
-        Yards.tool(x, 0);
-        x.addTool(1, 2, 9, 50, 4, 0);
+        x.setQualified(0, 0, 0, false);
         x.start(0, 1, 0);
-        Yards.passTo(x, 4);
-        EXPECT.same("one waits with a limit", x.limitOf(0), 12);
-        x.start(0, 1, 0);
-        x.start(0, 1, 0);
-        x.pass(1);
-        EXPECT.same("one is in a tool", x.lotState(1), 't');
-        EXPECT.same("room for two alone", x.why(1, 2), 'g');
+        x.pass(4);
+        x.setQualified(0, 0, 1, false);
         x.hold(0);
-        EXPECT.same("one that is held is in no gap", x.why(1, 2), '-');
-        x.release(0);
-        EXPECT.same("released into the gap", x.why(1, 2), 'g');
-        x.scrap(0, 1);
-        EXPECT.same("one that is scrapped is in no gap", x.why(1, 2), '-');
-    }
-
-    /** A batch of fewer lots than the capacity, as there is no more room. */
-    private static void takesNoMoreThanThereIsRoom() {
-        WaferYard x = new WaferYard();
-        Yards.route(x, Yards.limited(0, 1, 9), Yards.step(1, 2));
-        x.addTool(0, 3, 0, 50, 1, 0);
-        x.addTool(1, 2, 0, 50, 4, 0);
-        for (int i = 0; i < 3; i++) {
-            x.start(0, 1, 0);
-        }
-        EXPECT.same("each fits alone", x.why(0, 2), '-');
-        x.pass(1);
-        EXPECT.same("the first", x.lotState(0), 't');
-        EXPECT.same("the second beside it", x.lotState(1), 't');
-        EXPECT.same("no room for the third", x.lotState(2), 'w');
-        WaferYard y = new WaferYard();
-        Yards.route(y, Yards.limited(0, 1, 9), Yards.step(1, 2));
-        y.addTool(0, 3, 4, 50, 1, 0);
-        y.addTool(1, 2, 0, 50, 4, 0);
-        for (int i = 0; i < 3; i++) {
-            y.start(0, 1, 0);
-        }
-        y.pass(4);
-        EXPECT.same("fewer than the capacity wait", y.lotState(0), 'w');
-        y.pass(1);
-        EXPECT.same("for its patience", y.lotState(1), 't');
-        EXPECT.same("still no third", y.lotState(2), 'w');
-        WaferYard z = new WaferYard();
-        Yards.route(z, Yards.limited(0, 1, 9), Yards.step(1, 2));
-        z.addTool(0, 2, 0, 50, 1, 0);
-        Yards.tool(z, 1);
-        z.start(0, 1, 0);
-        z.start(0, 1, 0);
-        z.pass(1);
-        EXPECT.same("room for one", z.lotState(0), 't');
-        EXPECT.same("and not for two", z.lotState(1), 'w');
-    }
-
-    private static void countsRoom() {
-        WaferYard x = new WaferYard();
-        Yards.route(x, Yards.limited(0, 1, 9), Yards.step(1, 2));
-        x.addTool(0, 3, 0, 50, 1, 0);
-        EXPECT.same("a lot", x.start(0, 1, 0), 0);
-        EXPECT.same("no tool, no room", x.why(0, 0), 'g');
-        Yards.tool(x, 2);
-        EXPECT.same("none of the kind", x.why(0, 0), 'g');
-        x.addTool(1, 1, 0, 1, 3, 0);
-        EXPECT.same("one of the kind", x.why(0, 0), '-');
-        x.setQualified(2, 0, 1, false);
-        EXPECT.same("not qualified for the next step", x.why(0, 0), 'g');
-        x.setQualified(2, 0, 1, true);
-        x.askRest(2);
-        EXPECT.same("needs a rest", x.why(0, 0), 'g');
-        x.pass(1);
-        EXPECT.same("rests", x.toolState(2), 'r');
-        EXPECT.same("no room while it rests", x.why(0, 0), 'g');
-        x.pass(2);
-        EXPECT.same("still rests", x.lotState(0), 'w');
-        x.pass(1);
-        EXPECT.same("room when it is idle", x.lotState(0), 't');
-        WaferYard y = new WaferYard();
-        Yards.route(y, Yards.limited(0, 1, 9), Yards.step(1, 9));
-        Yards.route(y, Yards.step(1, 9));
-        y.addTool(0, 1, 0, 50, 1, 0);
-        y.addTool(1, 1, 0, 50, 3, 0);
-        y.start(1, 1, 0);
-        y.start(0, 1, 0);
-        y.pass(1);
-        EXPECT.same("a tool that works is room", y.lotState(1), 't');
-    }
-
-    private static void hasNoGap() {
-        WaferYard x = new WaferYard();
-        Yards.route(x, Yards.step(0, 1), Yards.step(1, 1));
-        Yards.route(x, Yards.limited(0, 1, 5));
-        Yards.tool(x, 0);
-        x.start(0, 1, 0);
-        x.start(1, 1, 0);
-        EXPECT.same("without a limit", x.why(0, 0), '-');
-        EXPECT.same("the last step", x.why(0, 1), '-');
-    }
-
-    /** The lot itself waits with a limit for a step of the kind behind it. */
-    private static void countsALotOnce() {
-        WaferYard x = new WaferYard();
-        Yards.route(x, Yards.limited(0, 1, 20), Yards.limited(0, 1, 20), Yards.step(0, 1));
-        x.addTool(0, 1, 0, 50, 1, 0);
-        x.start(0, 1, 0);
-        x.pass(3);
         x.askRest(0);
+        EXPECT.same("needs a rest, held, not qualified, bound, no room", x.why(0, 0), 't');
         x.pass(1);
-        EXPECT.same("waits with a limit", x.limitOf(0), 23);
-        EXPECT.same("for the next", x.stepOf(0), 1);
-        x.pass(1);
-        EXPECT.same("is one alone", x.lotState(0), 't');
-        EXPECT.same("at the next", x.stepOf(0), 1);
+        EXPECT.same("rests", x.toolState(0), 'r');
+        EXPECT.same("rests, held, not qualified, bound, no room", x.why(0, 0), 't');
+        x.pass(2);
+        EXPECT.same("idle", x.toolState(0), 'i');
+        EXPECT.same("held, not qualified, bound, no room", x.why(0, 0), 'w');
+        x.release(0);
+        EXPECT.same("not qualified, bound, no room", x.why(0, 0), 'q');
+        x.setQualified(0, 0, 1, true);
+        EXPECT.same("bound, no room", x.why(0, 0), 'd');
+        EXPECT.same("no room", x.why(1, 0), 'g');
+        x.setQualified(1, 0, 1, false);
+        EXPECT.same("not qualified, no room", x.why(1, 0), 'q');
+        x.setQualified(1, 0, 1, true);
+        x.hold(0);
+        EXPECT.same("held, no room", x.why(1, 0), 'w');
+        x.release(0);
+        Yards.tool(x, 3);
+        EXPECT.same("bound", x.why(0, 0), 'd');
+        EXPECT.same("nothing", x.why(1, 0), '-');
     }
 
-    private static void countsLotsOfOtherRoutes() {
+    private static void tellsAnotherKindAheadOfTheGap() {
         WaferYard x = new WaferYard();
-        Yards.route(x, Yards.limited(0, 5, 9), Yards.step(2, 1));
-        Yards.route(x, Yards.limited(1, 5, 9), Yards.step(2, 1));
-        Yards.route(x, Yards.limited(1, 5, 9), Yards.step(3, 1));
+        Yards.route(x, Yards.limited(0, 1, 9), Yards.step(3, 1));
         Yards.tool(x, 0);
         Yards.tool(x, 1);
-        Yards.tool(x, 2);
-        Yards.tool(x, 3);
         x.start(0, 1, 0);
-        x.pass(1);
-        x.start(1, 1, 0);
-        x.start(2, 1, 0);
-        EXPECT.same("another route, the same kind behind", x.why(1, 1), 'g');
-        EXPECT.same("another kind behind", x.why(1, 2), '-');
-    }
-
-    private static WaferYard twoAlike(int priority, int otherPriority) {
-        WaferYard x = Yards.small();
-        x.start(0, 1, priority);
-        x.start(0, 1, otherPriority);
-        return x;
-    }
-
-    private static void taken(String what, WaferYard x, int lot) {
-        x.pass(1);
-        EXPECT.same(what, x.lotState(lot), 't');
-    }
-
-    private static void ranksByNumber() {
-        taken("no rule", twoAlike(0, 9), 0);
-        WaferYard x = twoAlike(3, 3);
-        x.setRule('p', 'w', 'l', 'q');
-        taken("alike by all letters", x, 0);
-        WaferYard y = twoAlike(0, 9);
-        y.setRule('p', '-', '-', '-');
-        y.setRule('-', '-', '-', '-');
-        taken("no rule again", y, 0);
-    }
-
-    private static void ranksByPriority() {
-        WaferYard x = twoAlike(8, 9);
-        x.setRule('p', '-', '-', '-');
-        taken("the greater priority", x, 1);
-        WaferYard y = twoAlike(9, 8);
-        y.setRule('p', '-', '-', '-');
-        taken("the greater priority first", y, 0);
-    }
-
-    private static void ranksByWait() {
-        WaferYard x = new WaferYard();
-        Yards.route(x, Yards.step(0, 2));
-        x.start(0, 1, 0);
-        x.start(0, 1, 0);
+        EXPECT.same("no room", x.why(0, 0), 'g');
+        EXPECT.same("another kind, no room", x.why(1, 0), 'k');
         x.hold(0);
-        x.pass(1);
-        x.release(0);
-        Yards.tool(x, 0);
-        x.setRule('w', '-', '-', '-');
-        taken("since an earlier tick", x, 1);
-    }
-
-    private static void ranksByTicksLeft() {
-        WaferYard x = new WaferYard();
-        Yards.route(x, Yards.step(0, 1), Yards.step(0, 5));
-        Yards.route(x, Yards.step(0, 5));
-        Yards.tool(x, 0);
-        x.start(0, 1, 0);
-        x.start(1, 1, 0);
-        x.setRule('l', '-', '-', '-');
-        taken("fewer ticks left, the present ones too", x, 1);
-        WaferYard y = new WaferYard();
-        Yards.route(y, Yards.step(1, 9), Yards.step(0, 4));
-        Yards.route(y, Yards.step(0, 5));
-        Yards.tool(y, 0);
-        Yards.tool(y, 1);
-        y.start(1, 1, 0);
-        y.start(0, 1, 0);
-        y.hold(0);
-        Yards.passTo(y, 11);
-        y.release(0);
-        y.setRule('l', '-', '-', '-');
-        taken("not those that it had", y, 1);
-    }
-
-    private static void ranksBySetup() {
-        WaferYard x = new WaferYard();
-        Yards.route(x, Yards.step(0, 1));
-        Yards.route(x, Yards.step(0, 1));
-        Yards.tool(x, 0);
-        x.setRule('s', '-', '-', '-');
-        x.start(1, 1, 0);
-        x.pass(1);
-        x.start(0, 1, 0);
-        x.start(1, 1, 0);
-        x.pass(2);
-        taken("the setup's step first", x, 2);
-        EXPECT.same("the other waits", x.lotState(1), 'w');
-        x.pass(1);
-        EXPECT.same("then the other", x.lotState(1), 't');
-        EXPECT.same("with its own setup", x.setupOf(0), 0);
-    }
-
-    private static void ranksByLimit() {
-        WaferYard x = new WaferYard();
-        Yards.route(x, Yards.step(1, 1));
-        Yards.route(x, Yards.limited(0, 1, 20), Yards.step(1, 1));
-        Yards.route(x, Yards.limited(2, 1, 10), Yards.step(1, 1));
-        Yards.tool(x, 0);
-        x.addTool(1, 3, 0, 50, 9, 0);
-        Yards.tool(x, 2);
-        x.start(0, 1, 0);
-        x.start(1, 1, 0);
-        x.start(2, 1, 0);
-        x.hold(0);
-        x.pass(1);
+        EXPECT.same("held, another kind, no room", x.why(1, 0), 'w');
         x.askRest(1);
-        Yards.passTo(x, 4);
-        x.release(0);
-        EXPECT.same("a later limit", x.limitOf(1), 23);
-        EXPECT.same("an earlier limit", x.limitOf(2), 13);
-        x.setRule('q', '-', '-', '-');
-        Yards.passTo(x, 10);
-        taken("the limit that is up first", x, 2);
-        Yards.passTo(x, 13);
-        taken("then the other limit", x, 1);
-        EXPECT.same("without one behind", x.lotState(0), 'w');
+        EXPECT.same("needs a rest, held, another kind, no room", x.why(1, 0), 't');
     }
 
-    private static void ranksByTheNextLetter() {
-        WaferYard x = new WaferYard();
-        Yards.route(x, Yards.step(0, 2));
-        Yards.route(x, Yards.step(0, 1));
-        x.start(0, 1, 5);
-        x.start(0, 1, 7);
-        x.start(1, 1, 7);
-        x.start(1, 1, 6);
-        Yards.tool(x, 0);
-        x.setRule('p', 'l', '-', '-');
-        taken("priority, then ticks left", x, 2);
-        x.setRule('l', 'p', '-', '-');
-        Yards.passTo(x, 3);
-        taken("ticks left, then priority", x, 3);
-        x.setRule('s', 'w', 'q', 'p');
-        Yards.passTo(x, 4);
-        taken("the fourth letter", x, 1);
+    private static void takesUpToItsCapacity() {
+        for (int capacity = 1; capacity <= 3; capacity++) {
+            for (int lots = 1; lots <= 4; lots++) {
+                WaferYard x = new WaferYard();
+                Yards.route(x, Yards.step(0, 1));
+                x.addTool(0, capacity, 9, 50, 1, 0);
+                for (int i = 0; i < lots; i++) {
+                    x.start(0, 1, 0);
+                }
+                x.pass(1);
+                for (int i = 0; i < lots; i++) {
+                    boolean isTaken = lots >= capacity && i < capacity;
+                    EXPECT.same(capacity + " at once of " + lots + ": lot " + i, x.lotState(i), isTaken ? 't' : 'w');
+                }
+            }
+        }
     }
 }

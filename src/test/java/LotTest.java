@@ -18,6 +18,8 @@ public final class LotTest {
         promise11();
         promise11Keeps();
         promise11Limits();
+        promise11Rework();
+        promise11Layers();
         promise12();
         promise13();
         promise14();
@@ -61,6 +63,8 @@ public final class LotTest {
         }
         EXPECT.thrown("9 no steps ahead of full", UNSUPPORTED, () -> x.start(1, 1, 0));
         EXPECT.same("9 no lot on it", x.addStep(1, 0, 1, 0, -1, false), 1);
+        EXPECT.thrown("9 there were 16 lots", STATE, () -> x.start(1, 1, 0));
+        EXPECT.same("9 still no lot on it", x.addStep(1, 0, 1, 0, -1, false), 2);
     }
 
     private static void promise10() {
@@ -146,6 +150,8 @@ public final class LotTest {
         EXPECT.sameReal("10 the start of the whole", x.meanTime(), 7.0);
         hasItsPriority();
         hasItsDeviations();
+        hasItsWholeRecord();
+        isAsSoundAsTheWhole();
     }
 
     private static void hasItsPriority() {
@@ -168,6 +174,66 @@ public final class LotTest {
         Yards.tool(x, 1);
         x.pass(30);
         EXPECT.same("10 its yield", x.yieldOf(4), 94);
+    }
+
+    private static void hasItsWholeRecord() {
+        WaferYard x = new WaferYard();
+        Yards.route(x, Yards.step(0, 1), Yards.step(1, 2), Yards.step(2, 3), Yards.step(3, 1));
+        Yards.drifting(x, 1, 3);
+        Yards.drifting(x, 2, 5);
+        Yards.drifting(x, 0, 7);
+        x.start(0, 1, 0);
+        x.start(0, 5, 0);
+        x.pass(30);
+        EXPECT.same("10 three rows", x.records(1), 3);
+        EXPECT.same("10 part", x.split(1, 2), 2);
+        EXPECT.same("10 as many rows", x.records(2), 3);
+        for (int row = 0; row < 3; row++) {
+            for (char what : "stbed".toCharArray()) {
+                EXPECT.same("10 row " + row + " " + what, x.recordAt(2, row, what), x.recordAt(1, row, what));
+            }
+        }
+        EXPECT.same("10 last step", x.recordAt(2, 2, 's'), 2);
+        EXPECT.same("10 last tool", x.recordAt(2, 2, 't'), 1);
+        EXPECT.same("10 last deviation", x.recordAt(2, 2, 'd'), 5);
+        x.scrap(1, 3);
+        EXPECT.same("10 it stays when the whole is scrapped", x.records(2), 3);
+        x.merge(0, 2);
+        EXPECT.same("10 and when it is merged", x.recordAt(2, 2, 'd'), 5);
+        EXPECT.same("10 the other has its own", x.recordAt(0, 2, 'd'), 0);
+    }
+
+    /** The whole was held by its limit, began too late, and ended that step ahead of the split. */
+    private static void isAsSoundAsTheWhole() {
+        WaferYard x = limitedLots();
+        x.start(0, 3, 0);
+        x.pass(4);
+        x.setQualified(1, 0, 1, false);
+        x.pass(11);
+        EXPECT.same("10 held by its limit", x.release(0), true);
+        x.setQualified(1, 0, 1, true);
+        Yards.passTo(x, 24);
+        EXPECT.same("10 not begun", x.split(0, 1), 1);
+        Yards.passTo(x, 40);
+        EXPECT.same("10 too late", x.recordAt(0, 1, 'b') > 13, true);
+        EXPECT.same("10 too late, too", x.recordAt(1, 1, 'b') > 13, true);
+        EXPECT.same("10 sound, for it was held ahead of the split", x.isSound(), true);
+        WaferYard y = new WaferYard();
+        Yards.route(y, Yards.limited(0, 1, 2), Yards.step(1, 1), Yards.step(3, 1));
+        Yards.tool(y, 0);
+        Yards.tool(y, 1);
+        y.start(0, 3, 0);
+        y.pass(3);
+        y.setQualified(1, 0, 1, false);
+        y.pass(5);
+        EXPECT.same("10 held by its limit of 5", y.causeOf(0), 'q');
+        y.release(0);
+        y.setQualified(1, 0, 1, true);
+        y.pass(9);
+        EXPECT.same("10 ended the step that it began too late", y.recordAt(0, 1, 'b'), 8);
+        y.split(0, 1);
+        EXPECT.same("10 the part has it, too", y.recordAt(1, 1, 'b'), 8);
+        EXPECT.same("10 sound, for the whole was held", y.isSound(), true);
     }
 
     /** A part of a lot that was reworked is not reworked again, though it is far off. */
@@ -203,6 +269,7 @@ public final class LotTest {
         EXPECT.same("11 merged", x.lotState(1), 'm');
         EXPECT.same("11 no wafers", x.wafers(1), 0);
         EXPECT.same("11 its step as it was", x.stepOf(1), 0);
+        mergesAtALaterStep();
         EXPECT.same("11 wafers", x.wafers(0), 25);
         EXPECT.same("11 waits", x.lotState(0), 'w');
         EXPECT.thrown("11 more than 25", UNSUPPORTED, () -> x.merge(0, 2));
@@ -223,6 +290,16 @@ public final class LotTest {
         x.release(2);
         EXPECT.same("11 one waits for the next step", x.stepOf(0), 1);
         EXPECT.thrown("11 another step", UNSUPPORTED, () -> x.merge(4, 0));
+    }
+
+    private static void mergesAtALaterStep() {
+        WaferYard x = Yards.bare();
+        x.addTool(0, 2, 0, 50, 1, 0);
+        x.start(0, 1, 0);
+        x.start(0, 1, 0);
+        x.pass(9);
+        EXPECT.same("11 both wait for the step 1", x.merge(0, 1), 2);
+        EXPECT.same("11 its later step as it was", x.stepOf(1), 1);
     }
 
     private static void promise11Keeps() {
@@ -315,6 +392,45 @@ public final class LotTest {
             x.release(0);
             x.merge(into, 1 - into);
             EXPECT.same("11 the only limit", x.limitOf(into), 32);
+        }
+    }
+
+    /** A lot that was reworked and one that was not; the first of them stays as it is. */
+    private static void promise11Rework() {
+        for (int into = 9; into <= 10; into++) {
+            WaferYard x = Yards.aheadOfMeasure(9, 1, 1);
+            x.setQualified(0, 1, 0, false);
+            x.pass(1);
+            EXPECT.same("11 reworked", x.stepOf(9), 0);
+            x.start(1, 1, 0);
+            EXPECT.same("11 both", x.merge(into, 19 - into), 6);
+            x.setQualified(0, 1, 0, true);
+            Yards.passTo(x, 23);
+            int row = x.records(into) - 1;
+            EXPECT.same("11 far off", x.recordAt(into, row, 'd'), 6);
+            EXPECT.same("11 two measures", x.measures(0), 2);
+            EXPECT.same("11 reworked unless it was, lot " + into, x.stepOf(into), into == 9 ? 1 : 0);
+        }
+    }
+
+    /** Both lots are bound, each to another tool. */
+    private static void promise11Layers() {
+        for (int into = 0; into < 2; into++) {
+            WaferYard x = new WaferYard();
+            Yards.route(x, Yards.layered(0, 1, 2), Yards.layered(0, 1, 2));
+            x.addTool(0, 1, 0, 1, 9, 0);
+            x.addTool(0, 1, 0, 1, 9, 0);
+            x.start(0, 1, 0);
+            x.start(0, 1, 0);
+            Yards.passTo(x, 4);
+            x.merge(into, 1 - into);
+            x.setQualified(0, 0, 1, false);
+            x.setQualified(1, 0, 1, false);
+            Yards.passTo(x, 13);
+            x.setQualified(0, 0, 1, true);
+            x.setQualified(1, 0, 1, true);
+            EXPECT.same("11 its own tool", x.why(into, into), '-');
+            EXPECT.same("11 not that of the other", x.why(1 - into, into), 'd');
         }
     }
 
