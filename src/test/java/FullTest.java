@@ -8,6 +8,8 @@ public final class FullTest {
         worksWithAllPlacesTaken();
         keepsTheLongestRecord();
         measuresEachBatchOfAll();
+        holdsAllLotsByOneExcursion();
+        findsNoMoreRoomForTheLastLot();
         splitsIntoAllLots();
         splitsAndMergesBySingleWafers();
         takesTheLastValuesOfARoute();
@@ -75,6 +77,9 @@ public final class FullTest {
         }
         EXPECT.same("the last row's end", x.recordAt(1, 14, 'e') > x.recordAt(1, 13, 'e'), true);
         EXPECT.thrown("no more rows", INDEX, () -> x.recordAt(1, 15, 's'));
+        EXPECT.same("off by seven", x.recordAt(1, 10, 'd'), 7);
+        EXPECT.same("and by ten", x.recordAt(1, 13, 'd'), 10);
+        EXPECT.same("a yield of all rows", x.yieldOf(1), 83);
         EXPECT.same("sound", x.isSound(), true);
     }
 
@@ -92,6 +97,57 @@ public final class FullTest {
         Yards.passTo(x, 2000);
         EXPECT.same("a measure for each step of each lot", x.measures(0), 192);
         EXPECT.same("the last one is done", x.lotState(15), 'd');
+    }
+
+    /** Two lots let the tool drift, a third is far off, and its 13 parts with it; 6 tools and 16 lots in all. */
+    private static void holdsAllLotsByOneExcursion() {
+        WaferYard x = new WaferYard();
+        Yards.route(x, Yards.step(0, 1));
+        Yards.route(x, Yards.measured(0, 1), Yards.step(3, 1));
+        Yards.drifting(x, 0, 9);
+        for (int tool = 1; tool < 6; tool++) {
+            Yards.tool(x, 1 + tool % 2);
+        }
+        x.start(0, 1, 0);
+        x.start(0, 1, 0);
+        x.start(1, 20, 0);
+        Yards.passTo(x, 10);
+        for (int lot = 3; lot < 16; lot++) {
+            EXPECT.same("a part", x.split(2, 1), lot);
+        }
+        EXPECT.same("far off", x.recordAt(15, 0, 'd'), 18);
+        x.pass(1);
+        for (int lot = 2; lot < 16; lot++) {
+            EXPECT.same("held, lot " + lot, x.causeOf(lot), 'e');
+        }
+        EXPECT.same("one excursion", x.excursions(), 1);
+        EXPECT.same("two are done", x.lotState(1), 'd');
+        EXPECT.sameReal("at 3 and 4", x.meanTime(), 3.5);
+        EXPECT.same("sound", x.isSound(), true);
+    }
+
+    /** Five tools behind the gap work at other lots; of eleven lots five come into the gap. */
+    private static void findsNoMoreRoomForTheLastLot() {
+        WaferYard x = new WaferYard();
+        Yards.route(x, Yards.limited(0, 1, 30), Yards.step(1, 1));
+        Yards.route(x, Yards.step(1, 9));
+        x.addTool(0, 3, 0, 50, 1, 0);
+        for (int tool = 1; tool < 6; tool++) {
+            Yards.tool(x, 1);
+        }
+        for (int lot = 0; lot < 16; lot++) {
+            x.start(lot < 5 ? 1 : 0, 1, 0);
+        }
+        x.pass(5);
+        for (int tool = 1; tool < 6; tool++) {
+            EXPECT.same("works", x.toolState(tool), 'p');
+        }
+        for (int lot = 5; lot < 16; lot++) {
+            EXPECT.same("step of lot " + lot, x.stepOf(lot), lot < 10 ? 1 : 0);
+            EXPECT.same("lot " + lot, x.why(0, lot), lot < 10 ? 'k' : 'g');
+        }
+        x.scrap(9, 1);
+        EXPECT.same("room for the last lot", x.why(0, 15), '-');
     }
 
     private static void splitsIntoAllLots() {
